@@ -743,7 +743,7 @@ public final class YoungerBench {
         }
 
         int draw() {
-            x = (int) ((x * 1103515245L + 12345L) & Integer.MAX_VALUE);
+            x = (int) ((x * 1103515245L + 12345L) & 0x7FFFFFFFL);
             return x / 65536;
         }
     }

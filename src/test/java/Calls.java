@@ -1,0 +1,76 @@
+/** What the tests share: texts brought onto the TAPE, and answers held against the due ones. */
+final class Calls {
+    private static int wrong = 0;
+    private static int asked = 0;
+
+    private Calls() {
+    }
+
+    static void due(String call, long got, long want) {
+        asked++;
+        if (got != want) {
+            wrong++;
+            System.out.println(call + " answered " + got + ", due is " + want);
+        }
+    }
+
+    static void holds(String what, boolean so) {
+        due(what, so ? 1 : 0, 1);
+    }
+
+    /** Ends the test: with 1 if an answer was not as due, or none was asked. */
+    static void close() {
+        System.out.println(wrong == 0 ? asked + " answers are as due" : wrong + " answers are not as due");
+        if (wrong != 0 || asked == 0) {
+            System.exit(1);
+        }
+    }
+
+    /** The five numbers of a feed from a place of a text on, 0 behind its end. */
+    static int[] numbers(String text, int from) {
+        int[] numbers = new int[5];
+        for (int i = 0; i < 20; i++) {
+            int sign = from + i < text.length() ? text.charAt(from + i) : 0;
+            numbers[i / 4] = numbers[i / 4] << 8 | sign & 255;
+        }
+        return numbers;
+    }
+
+    /** The TAPE is this text alone. */
+    static void tape(YoungerBench bench, String text) {
+        bench.end(0);
+        for (int from = 0; from < text.length(); from += 20) {
+            int[] n = numbers(text, from);
+            bench.feed(n[0], n[1], n[2], n[3], n[4]);
+        }
+        bench.end(text.length());
+    }
+
+    static int town(YoungerBench bench, String text) {
+        tape(bench, text);
+        return bench.town();
+    }
+
+    static int rule(YoungerBench bench, String text) {
+        tape(bench, text);
+        return bench.rule();
+    }
+
+    static YoungerBench townOf(String text) {
+        YoungerBench bench = new YoungerBench();
+        int people = town(bench, text);
+        holds("the town is told: " + text, people >= 0);
+        return bench;
+    }
+
+    /** What a call answers to a text with this FAULT. */
+    static int fault(int place, int kind) {
+        return -2 - (1 + 8 * place + kind);
+    }
+
+    static void days(YoungerBench bench, int many) {
+        for (int i = 0; i < many; i++) {
+            bench.day();
+        }
+    }
+}
