@@ -4,6 +4,7 @@ public final class TapeTest {
         newObject();
         feedAndEnd();
         bytesComeHighestFirst();
+        cutBytesAreGone();
         Calls.close();
     }
 
@@ -80,5 +81,30 @@ public final class TapeTest {
         b.end(0);
         b.feed(0x20FF7F81, 0, 0, 0, 0);
         Calls.due("a byte of 255", b.rule(), Calls.fault(1, 0));
+    }
+
+    private static YoungerBench cut(String text, int bytes) {
+        YoungerBench b = new YoungerBench();
+        Calls.tape(b, text);
+        Calls.due("end(" + bytes + ")", b.end(bytes), bytes);
+        return b;
+    }
+
+    /** What was cut off tells nothing, though it may lie there still. */
+    private static void cutBytesAreGone() {
+        Calls.due("blanks", cut("town 1 5;   ", 9).town(), Calls.fault(9, 0));
+        Calls.due("letters", cut("towns", 4).town(), Calls.fault(4, 0));
+        YoungerBench b = cut("town 1 55", 8);
+        Calls.due("digits", b.town(), 0);
+        Calls.due("YEAR", b.count(1), 5);
+        Calls.due("all", cut("town 1 5", 0).town(), Calls.fault(0, 0));
+        Calls.due("a CLAUSE", cut("town 1 5;person 1 1 1", 8).town(), 0);
+        Calls.due("more digits", cut("right 123456", 11).rule(), 0);
+        Calls.due("the second of two signs", cut("right 1 if 1<=1", 13).rule(), Calls.fault(13, 0));
+        Calls.due("a word's end", cut("right witty", 9).rule(), 0);
+        YoungerBench c = cut("town 1 5xxxxxxxxxxxx", 8);
+        c.feed(0x3B706572, 0x736F6E20, 0x37203820, 0x39202020, 0x20202020);
+        Calls.due("what comes behind the cut", c.town(), 1);
+        Calls.due("AGE", c.person(0, 0), 7);
     }
 }
