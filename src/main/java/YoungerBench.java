@@ -109,25 +109,29 @@ public final class YoungerBench {
     }
 
     public int town() {
-        reader.open(tapeBytes);
+        openTape();
         if (!townReader.reads()) {
             return NO_SUCH - reader.fault;
         }
-        tapeBytes = 0;
         now.settle(draft);
         past.forget();
         return now.town.people;
+    }
+
+    /** A TAPE that is read is empty then, with a FAULT or without: the reader alone knows how long it was. */
+    private void openTape() {
+        reader.open(tapeBytes);
+        tapeBytes = 0;
     }
 
     public int rule() {
         if (rulesTold >= MOST_RULES) {
             return NONE;
         }
-        reader.open(tapeBytes);
+        openTape();
         if (!ruleReader.reads()) {
             return NO_SUCH - reader.fault;
         }
-        tapeBytes = 0;
         rules[rulesTold] = ruleReader.made();
         rulesTold++;
         return rulesTold - 1;

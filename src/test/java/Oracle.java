@@ -417,13 +417,18 @@ final class Oracle {
         return words -> number;
     }
 
+    private String takeTape() {
+        String text = tape.toString();
+        tape.setLength(0);
+        return text;
+    }
+
     int town() {
         try {
-            World told = readTown(tape.toString());
+            World told = readTown(takeTape());
             told.x = w.x;
             told.inForce = w.inForce;
             w = told;
-            tape.setLength(0);
             before.clear();
             return w.people.size();
         } catch (Fault f) {
@@ -436,8 +441,7 @@ final class Oracle {
             return NONE;
         }
         try {
-            rules.add(readRule(tape.toString()));
-            tape.setLength(0);
+            rules.add(readRule(takeTape()));
             return rules.size() - 1;
         } catch (Fault f) {
             return -2 - f.number;

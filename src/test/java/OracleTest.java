@@ -31,7 +31,9 @@ public final class OracleTest {
 
     private void tape(String full) {
         String text = full.length() > 400 ? full.substring(0, 400) : full;
-        due("end(0)", bench.end(0), oracle.end(0));
+        if (random.nextInt(4) != 0) {
+            due("end(0)", bench.end(0), oracle.end(0));
+        }
         told.append("\"").append(text).append("\"\n");
         for (int from = 0; from < text.length(); from += 20) {
             int[] n = Calls.numbers(text, from);

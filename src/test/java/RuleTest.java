@@ -158,7 +158,7 @@ public final class RuleTest {
         YoungerBench b = new YoungerBench();
         Calls.due("rule \"" + text + "\"", Calls.rule(b, text), Calls.fault(place, kind));
         Calls.due("no RULE", b.count(4), 0);
-        Calls.due("the TAPE stays", b.count(14), text.length());
+        Calls.due("the TAPE is empty behind a FAULT", b.count(14), 0);
     }
 
     private static void places() {
@@ -257,6 +257,7 @@ public final class RuleTest {
         Calls.due("a seventh", Calls.rule(b, "right 6"), -1);
         Calls.due("the TAPE stays", b.count(14), 7);
         Calls.due("a seventh with a FAULT", Calls.rule(b, "right"), -1);
+        Calls.due("its TAPE stays", b.count(14), 5);
         Calls.due("RULES", b.count(4), 6);
     }
 

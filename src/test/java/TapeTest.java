@@ -4,6 +4,7 @@ public final class TapeTest {
         newObject();
         feedAndEnd();
         bytesComeHighestFirst();
+        emptyBehindFaults();
         cutBytesAreGone();
         Calls.close();
     }
@@ -78,9 +79,25 @@ public final class TapeTest {
         Calls.due("the TAPE is empty then", b.count(14), 0);
         b.feed(0x80FF7F81, 0, 0, 0, 0);
         Calls.due("a byte of 128", b.town(), Calls.fault(0, 0));
-        b.end(0);
         b.feed(0x20FF7F81, 0, 0, 0, 0);
         Calls.due("a byte of 255", b.rule(), Calls.fault(1, 0));
+    }
+
+    /** What comes next stands alone on the TAPE, whatever was read ahead of it. */
+    private static void emptyBehindFaults() {
+        YoungerBench b = new YoungerBench();
+        Calls.due("feed", b.feed(0, 0, 0, 0, 0), 20);
+        Calls.due("feed more", b.feed(0, 0, 0, 0, 0), 40);
+        Calls.due("town()", b.town(), Calls.fault(0, 0));
+        Calls.due("end(1) of an empty TAPE", b.end(1), -1);
+        Calls.due("feed behind a FAULT of a TOWN", b.feed(0, 0, 0, 0, 0), 20);
+        Calls.due("rule()", b.rule(), Calls.fault(0, 0));
+        Calls.due("end(1) then", b.end(1), -1);
+        Calls.due("feed behind a FAULT of a RULE", b.feed(0x746F776E, 0x20312035, 0x20202020, 0x20202020, 0x20202020), 20);
+        Calls.due("a TOWN behind FAULTS", b.town(), 0);
+        Calls.due("town() of an empty TAPE", b.town(), Calls.fault(0, 0));
+        Calls.due("rule() of an empty TAPE", b.rule(), Calls.fault(0, 0));
+        Calls.due("the TOWN stays", b.count(1), 5);
     }
 
     private static YoungerBench cut(String text, int bytes) {

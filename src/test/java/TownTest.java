@@ -36,7 +36,7 @@ public final class TownTest {
     private static void wrong(String text, int place, int kind) {
         YoungerBench b = new YoungerBench();
         Calls.due("town \"" + text + "\"", Calls.town(b, text), Calls.fault(place, kind));
-        Calls.due("the TAPE stays", b.count(14), text.length());
+        Calls.due("the TAPE is empty behind a FAULT", b.count(14), 0);
         Calls.due("no TOWN", b.count(9), -1);
     }
 
@@ -147,7 +147,9 @@ public final class TownTest {
         Calls.due("ACTS stay", b.count(12), 2);
         Calls.due("PEOPLE stay", b.count(2), 4);
         Calls.due("WIT stays", b.person(1, 1), 8);
-        Calls.due("bytes stay", b.count(14), 6);
+        Calls.due("the RULE IN FORCE stays", b.count(5), 0);
+        Calls.due("x stays", b.count(13), 99);
+        Calls.due("no byte stays", b.count(14), 0);
         Calls.due("another TOWN", Calls.town(b, "town 2 6;person 3 4 5;case 0 1 2 3"), 1);
         int[] due = {2, 6, 1, 1, 1, 0, 0, 0, 0, 0, 9999, 0, 0, 99, 0};
         for (int what = 0; what < due.length; what++) {
