@@ -646,10 +646,9 @@ public final class YoungerBench {
             return NONE;
         }
 
-        /** The DAY is counted on first: what is ruled by its going by is ruled on the DAY that it is then. */
+        /** The DAY is counted on last: what is ruled by its going by is ruled on the DAY that goes by. */
         int pass(Town town) {
             int bits = 0;
-            day++;
             for (int trial = 0; trial < town.cases; trial++) {
                 if (judge[trial] >= 0) {
                     toGo[trial]--;
@@ -659,6 +658,7 @@ public final class YoungerBench {
                     }
                 }
             }
+            day++;
             return bits;
         }
 

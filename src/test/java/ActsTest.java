@@ -6,6 +6,7 @@ public final class ActsTest {
         can();
         hearings();
         appeals();
+        ageOfTheDayThatWentBy();
         rightAsBegun();
         teaching();
         undoing();
@@ -120,7 +121,7 @@ public final class ActsTest {
         Calls.due("one day less", b.trial(0, 5), 1);
         Calls.due("heard, as bits", b.count(7), 1);
         Calls.due("ruled, as bits", b.count(8), 4);
-        int[] due = {0, 6, 1, 0, -1, 0, 3, 65, 9, 1};
+        int[] due = {0, 6, 1, 0, -1, 0, 3, 65, 8, 1};
         for (int what = 0; what < 10; what++) {
             Calls.due("trial(2," + what + ")", b.trial(2, what), due[what]);
         }
@@ -129,10 +130,10 @@ public final class ActsTest {
         Calls.due("CASE 1", b.hear(1, 3), 69);
         Calls.due("a day", b.day(), 1);
         Calls.due("ruled by", b.trial(0, 6), 1);
-        Calls.due("AGE on the DAY it was ruled", b.trial(0, 8), 52);
+        Calls.due("AGE on the DAY it was ruled", b.trial(0, 8), 51);
         Calls.due("a day", b.day(), 0);
         Calls.due("a day", b.day(), 1);
-        Calls.due("that AGE stays", b.trial(0, 8), 52);
+        Calls.due("that AGE stays", b.trial(0, 8), 51);
         Calls.due("ruled, as bits", b.count(8), 7);
         Calls.due("how many they ruled", b.person(3, 6), 2);
         YoungerBench none = Calls.townOf("town 1 5");
@@ -153,13 +154,14 @@ public final class ActsTest {
         Calls.due("before a younger one", b.hear(0, 3), 77);
         Calls.due("who ruled it last", b.trial(0, 6), 2);
         Calls.due("how RIGHT it was", b.trial(0, 7), 53);
+        Calls.due("AGE on the DAY it was ruled", b.trial(0, 8), 34);
         Calls.due("how often", b.trial(0, 9), 1);
         Calls.due("who hears it", b.trial(0, 4), 3);
         Calls.due("heard and ruled", b.count(7) * 10 + b.count(8), 11);
         Calls.days(b, 2);
         Calls.due("who ruled it last", b.trial(0, 6), 3);
         Calls.due("how RIGHT it is", b.trial(0, 7), 77);
-        Calls.due("AGE then", b.trial(0, 8), 12);
+        Calls.due("AGE then", b.trial(0, 8), 11);
         Calls.due("how often", b.trial(0, 9), 2);
         Calls.due("both ruled one", b.person(2, 6) * 10 + b.person(3, 6), 11);
         Calls.due("nobody is younger", b.hear(0, 3), -1);
@@ -169,6 +171,33 @@ public final class ActsTest {
         c.day();
         Calls.due("younger by 9 than who ruled it", c.hear(0, 2), -1);
         Calls.due("younger by 10", c.hear(0, 3), 61);
+    }
+
+    /** A CASE is ruled on the last of its days, not on the one that it is once that has gone by. */
+    private static void ageOfTheDayThatWentBy() {
+        YoungerBench b = Calls.townOf("town 1 9;person 250 0 0;person 10 5 0;person 5 3 0;case 0 1 1 0;case 0 1 2 0;case 0 1 8 1");
+        b.hear(0, 1);
+        Calls.due("heard, not ruled", b.trial(0, 8), -1);
+        b.day();
+        Calls.due("one day alone", b.trial(0, 8), 10);
+        Calls.due("AGE now", b.person(1, 0), 11);
+        b.day();
+        Calls.due("the last two days ahead of a BIRTHDAY", b.hear(1, 2), 61);
+        Calls.days(b, 2);
+        Calls.due("AGE ahead of the BIRTHDAY", b.trial(1, 8), 8);
+        Calls.due("the BIRTHDAY now", b.person(2, 4), 9);
+        Calls.days(b, 5);
+        Calls.due("all days between two BIRTHDAYS", b.hear(2, 1), 71);
+        Calls.days(b, 7);
+        Calls.due("a day to go", b.trial(2, 8), -1);
+        Calls.due("the last of them", b.day(), 1);
+        Calls.due("AGE ahead of the BIRTHDAY", b.trial(2, 8), 26);
+        b.undo();
+        Calls.due("undone", b.trial(2, 8), -1);
+        b.day();
+        b.day();
+        Calls.due("that AGE again, and it stays", b.trial(2, 8), 26);
+        Calls.due("the first one stays, too", b.trial(0, 8), 10);
     }
 
     private static void rightAsBegun() {

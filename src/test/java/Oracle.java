@@ -575,7 +575,6 @@ final class Oracle {
 
     List<Case> pass() {
         List<Case> ruled = new ArrayList<>();
-        w.day++;
         for (Case c : w.cases) {
             if (c.judge != NONE) {
                 c.toGo--;
@@ -590,6 +589,7 @@ final class Oracle {
                 }
             }
         }
+        w.day++;
         return ruled;
     }
 
