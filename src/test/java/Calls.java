@@ -68,6 +68,58 @@ final class Calls {
         return -2 - (1 + 8 * place + kind);
     }
 
+    /** A new object reads this TOWN: so many PEOPLE. */
+    static void townReads(String text, int people) {
+        due("town \"" + text + "\"", town(new YoungerBench(), text), people);
+    }
+
+    static void townFails(String text, int place, int kind) {
+        due("town \"" + text + "\"", town(new YoungerBench(), text), fault(place, kind));
+    }
+
+    static void ruleReads(String text) {
+        due("rule \"" + text + "\"", rule(new YoungerBench(), text), 0);
+    }
+
+    static void ruleFails(String text, int place, int kind) {
+        due("rule \"" + text + "\"", rule(new YoungerBench(), text), fault(place, kind));
+    }
+
+    /** A TOWN with a RULE that is IN FORCE. */
+    static YoungerBench ruledBy(String town, String rule) {
+        YoungerBench bench = townOf(town);
+        due("rule \"" + rule + "\"", rule(bench, rule), 0);
+        bench.force(0);
+        return bench;
+    }
+
+    static String times(int many, String text) {
+        return text.repeat(many);
+    }
+
+    /** All that counts, PEOPLE and CASES tell, as one text, to see that nothing has happened. */
+    static String all(YoungerBench bench) {
+        StringBuilder all = new StringBuilder();
+        for (int what = 0; what <= 14; what++) {
+            all.append(bench.count(what)).append(' ');
+        }
+        int people = bench.count(2);
+        int cases = bench.count(3);
+        for (int i = 0; i < people * 8; i++) {
+            all.append(i % 8 == 0 ? "| " : "").append(bench.person(i / 8, i % 8)).append(' ');
+        }
+        for (int i = 0; i < cases * 10; i++) {
+            all.append(i % 10 == 0 ? "/ " : "").append(bench.trial(i / 10, i % 10)).append(' ');
+        }
+        return all.toString();
+    }
+
+    /** Nothing has happened since all() answered that. */
+    static void stays(String call, String was, YoungerBench bench) {
+        String is = all(bench);
+        holds(call + ": nothing happens; it was " + was + "and is " + is, was.equals(is));
+    }
+
     static void days(YoungerBench bench, int many) {
         for (int i = 0; i < many; i++) {
             bench.day();
