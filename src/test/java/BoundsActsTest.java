@@ -87,6 +87,10 @@ public final class BoundsActsTest {
         b.day();
         Calls.due("ruled: no HEAR before the same one", b.hear(1, 1), -1);
         Calls.due("ruled: an APPEAL", b.hear(1, 2), 61);
+        YoungerBench zero = Calls.townOf("town 1 90;person 10 3 0;person 85 0 0;person 11 3 0;case 1 1 9 0");
+        Calls.due("before PERSON 0", zero.hear(0, 0), 61);
+        Calls.due("heard now by PERSON 0", zero.hear(0, 2), -1);
+        Calls.due("PERSON 0 hears it", zero.person(0, 5), 0);
     }
 
     /** "before a judge who CAN from this DAY on," */

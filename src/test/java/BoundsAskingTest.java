@@ -58,6 +58,10 @@ public final class BoundsAskingTest {
         chain("all three", b, 0, 1, 2, 3);
         YoungerBench twin = Calls.townOf("town 5 90;person 80 0 0;person 32 0 0;person 18 0 0;person 2 0 0;twins 0 2;case 0 1 2 0");
         chain("a twin", twin, 0, 1, 3);
+        YoungerBench zero = Calls.townOf("town 5 20;person 19 0 0;person 32 0 0;person 80 0 0;case 2 1 1 0");
+        chain("PERSON 0, too", zero, 0, 1, 0);
+        zero.day();
+        chain("PERSON 0 on a BIRTHDAY", zero, 0, 1);
     }
 
     /** "(the first one, if it is ruled, younger so than who ruled it last);" */
@@ -114,6 +118,9 @@ public final class BoundsAskingTest {
             Calls.due("down(" + trial + ",0)", b.down(trial, 0), -1);
             Calls.due("down(" + trial + ",7)", b.down(trial, 7), -1);
         }
+        b.hear(2, 3);
+        b.day();
+        Calls.due("of a ruled one: down(2,-1)", b.down(2, -1), -1);
         Calls.due("without a TOWN", new YoungerBench().down(0, 0), -1);
     }
 
@@ -190,6 +197,8 @@ public final class BoundsAskingTest {
         Calls.due("LENGTH 9", b.commit(0, 1, 9, 1, 1), 91);
         Calls.due("PERSON 6", b.commit(6, 1, 1, 1, 1), 46);
         Calls.due("the youngest", b.commit(3, 1, 1, 1, 1), 0);
+        YoungerBench first = Calls.townOf("town 1 90;person 11 3 0;person 80 0 0");
+        Calls.due("before PERSON 0", first.commit(1, 1, 1, 1, 1), 61);
     }
 
     /** Promise 18: "NONE without these (GRAVITY, LENGTH 1 to 9)." */

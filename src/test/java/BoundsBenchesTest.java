@@ -126,6 +126,9 @@ public final class BoundsBenchesTest {
         b.undo();
         b.undo();
         Calls.due("five again", b.benches(0), -3);
+        YoungerBench zero = Calls.townOf("town 1 90;person 10 3 0;person 85 0 0" + Calls.times(5, ";case 1 1 1 0"));
+        zero.hear(2, 0);
+        row("four, one is heard by PERSON 0", zero, 244, 4, 0, 1, 3, 4, 0, 0, 0, 0, 1, 2, 3, 4);
     }
 
     /**
@@ -201,6 +204,10 @@ public final class BoundsBenchesTest {
         Calls.due("ruled none yet", c.benches(0), 0);
         c.day();
         row("ruled one, in the second CASE, too", c, 14, 2, 1, 2, -2, -2, 2, 2, -2, -2, 1, 2, -2, -2);
+        YoungerBench never = Calls.ruledBy(TWO + Calls.times(3, ";case 0 1 1 0"), "right 5+appeal*9");
+        never.hear(0, 2);
+        never.day();
+        Calls.due("these were never ruled", never.benches(0), 10);
     }
 
     /** "of several with the least last day (on which something is heard)," */
@@ -225,6 +232,11 @@ public final class BoundsBenchesTest {
         row("the row of CASES ahead of the judges", d, 122, 0, 0, 1, -2, -2, 2, 1, -2, -2, 0, 0, -2, -2);
         YoungerBench first = Calls.townOf("town 1 90;person 10 3 0;person 85 0 0;case 1 1 1 0");
         Calls.due("PERSON 0", first.benches(6), 0);
+        YoungerBench last = Calls.townOf(ONE + ";case 0 1 5 14;case 0 1 5 9;case 0 1 5 4;case 0 1 5 0");
+        row("the last row of all, if the others end later", last, 244, 19, 3, 2, 1, 0, 1, 1, 1, 1, 0, 5, 10, 15);
+        YoungerBench both = Calls.townOf("town 1 90;bench 0 70;person 80 0 0;person 10 3 0;person 11 3 0;person 81 0 0;twins 0 2;"
+                + "twins 3 1;case 0 1 4 4;case 3 1 4 4;case 0 1 5 0;case 3 1 5 0");
+        row("0 and 2 before judge 1, 1 and 3 before judge 2, the later one first", both, 244, 8, 2, 0, 3, 1, 1, 1, 2, 2, 0, 5, 0, 5);
     }
 
     /**
@@ -309,6 +321,10 @@ public final class BoundsBenchesTest {
         YoungerBench b = Calls.townOf(TWO + ";case 0 1 1 0");
         Calls.due("1 or 2", b.lesson(0), 1);
         Calls.due("how much", b.lesson(1), 66);
+        YoungerBench each = Calls.townOf("town 1 90;person 85 9 0;person 11 3 0;person 10 3 0;person 85 9 0;twins 0 2;twins 3 1;"
+                + "case 0 1 1 0;case 3 1 1 0");
+        Calls.due("1 for CASE 0 or 2 for CASE 1", each.lesson(0), 1);
+        Calls.due("how much", each.lesson(1), 127);
         YoungerBench none = Calls.townOf(TWO);
         Calls.due("of no CASES the least of all", none.lesson(0), 0);
         Calls.due("of no CASES 0", none.lesson(1), 0);

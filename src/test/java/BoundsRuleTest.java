@@ -158,7 +158,20 @@ public final class BoundsRuleTest {
                 holds(left + signs[i] + "wit", due[i][left - 6]);
             }
         }
+        for (int i = 0; i < 5; i++) {
+            for (int left = 6; left <= 8; left++) {
+                boolean is = due[i][left - 6];
+                holds("not " + left + signs[i] + "wit", !is);
+                holds(left + signs[i] + "wit and 1=1", is);
+                holds("1=1 and " + left + signs[i] + "wit", is);
+                holds(left + signs[i] + "wit or 1=2", is);
+            }
+        }
         holds("1+1 < 1+1+1", true);
+        YoungerBench cut = new YoungerBench();
+        Calls.tape(cut, "right 9 if 1<=1");
+        cut.end(13);
+        Calls.due("what was cut off is no part of a SIGN", cut.rule(), Calls.fault(13, 0));
         String[] wrong = {"=<", "=>", "==", "<>", "!=", "<<", "< ="};
         for (String sign : wrong) {
             int at = sign.length() == 3 ? 14 : sign.charAt(0) == '!' ? 12 : 13;
@@ -213,6 +226,11 @@ public final class BoundsRuleTest {
         Calls.ruleFails("right wi", 6, 0);
         Calls.ruleFails("right wits", 6, 0);
         Calls.ruleFails("right witwit", 6, 0);
+        Calls.ruleFails("right witz", 6, 0);
+        Calls.ruleFails("right wita", 6, 0);
+        Calls.ruleFails("right awit", 6, 0);
+        Calls.ruleFails("right wit`", 9, 0);
+        Calls.ruleFails("right wit{", 9, 0);
         Calls.ruleFails("right wit2", 9, 0);
         Calls.ruleFails("right wit wit", 10, 0);
         Calls.ruleFails("right Wit", 6, 0);

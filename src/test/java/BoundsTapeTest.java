@@ -207,6 +207,11 @@ public final class BoundsTapeTest {
         b.hear(4, 6);
         Calls.due("heard again", b.count(7), 16);
         Calls.due("ruled all the same", b.count(8), 63);
+        YoungerBench zero = Calls.townOf("town 1 99;person 10 0 0;person 90 0 0;case 1 1 1 0;case 1 1 1 0");
+        zero.hear(1, 0);
+        Calls.due("heard by PERSON 0", zero.count(7), 2);
+        zero.day();
+        Calls.due("ruled by PERSON 0", zero.count(8), 2);
     }
 
     /** Promise 27: "NONE for others (9, 10 without a TOWN, too)." */

@@ -46,7 +46,8 @@ public final class BoundsTownTest {
         Calls.townFails(";town 1 5", 0, 0);
         Calls.townFails("town 1 5 bench 0 1", 9, 0);
         Calls.townReads(SEVEN + ";bench 1 2" + Calls.times(4, ";twins 0 6") + Calls.times(6, ";case 6 1 1 0"), 7);
-        Calls.townFails("town 1 5" + Calls.times(40, ";bench 0 0"), 19, 4);
+        Calls.townFails("town 1 5" + Calls.times(39, ";town"), 9, 4);
+        Calls.townFails("town 1 5" + Calls.times(40, ";town"), 9, 4);
     }
 
     /** "town NUMBER NUMBER (GAP 1 to 99:" */
@@ -165,6 +166,12 @@ public final class BoundsTownTest {
         for (int p = 0; p < 7; p++) {
             Calls.due("twins of " + p, b.person(p, 3), bits[p]);
         }
+        Calls.town(b, SEVEN + Calls.times(4, ";twins 4 5"));
+        int[] others = {0, 0, 0, 0, 32, 16, 0};
+        for (int p = 0; p < 7; p++) {
+            Calls.due("of another TOWN, twins of " + p, b.person(p, 3), others[p]);
+        }
+        Calls.due("four of yet another one", Calls.town(b, SEVEN + Calls.times(4, ";twins 4 5")), 7);
     }
 
     /**
@@ -218,8 +225,11 @@ public final class BoundsTownTest {
     /** "It is DAY 0; nothing is heard yet." */
     private static void dayZero() {
         YoungerBench b = Towns.four();
+        b.hear(2, 3);
         b.day();
+        b.hear(2, 3);
         b.hear(0, 1);
+        b.teach(2);
         Calls.town(b, Towns.FOUR);
         Calls.due("DAY", b.count(6), 0);
         Calls.due("heard", b.count(7), 0);
@@ -227,6 +237,7 @@ public final class BoundsTownTest {
         Calls.due("who hears it", b.trial(0, 4), -1);
         Calls.due("days to go", b.trial(0, 5), 0);
         Calls.due("the CASE they hear", b.person(1, 5), -1);
+        Calls.stays("the TOWN told again", Calls.all(Towns.four()), b);
     }
 
     /**

@@ -43,7 +43,10 @@ final class Calls {
             int[] n = numbers(text, from);
             bench.feed(n[0], n[1], n[2], n[3], n[4]);
         }
-        bench.end(text.length());
+        int bytes = bench.end(text.length());
+        if (bytes != text.length()) {
+            due("the TAPE takes \"" + text + "\"", bytes, text.length());
+        }
     }
 
     static int town(YoungerBench bench, String text) {
